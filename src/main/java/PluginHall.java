@@ -1,5 +1,3 @@
-import java.util.Arrays;
-
 /** A hall for plugins; ../shared/DOC.md has the promises, and the words in capitals are its terms. */
 public final class PluginHall {
     public static final int REFUSED = -1, FULL = -2, EXISTS = -3, NO_NAME = -4, NO_CLASS = -5, NOT_AWAKE = -6, BROKEN = -7, OTHER_TYPE = -8;
@@ -718,7 +716,6 @@ public final class PluginHall {
 
         void uninstall() {
             installed = false;
-            wiring.reset();
             tree.cut();
         }
 
@@ -833,7 +830,7 @@ public final class PluginHall {
             return row[ownerOf(found)].wiring.kinds[found % Wiring.MOST_CLASSES];
         }
 
-        boolean wakesFor(int found, int level) {
+        private boolean wakesFor(int found, int level) {
             return (kindOf(found) & Wiring.APART) != 0 || wakes(ownerOf(found), level);
         }
 
@@ -965,9 +962,9 @@ public final class PluginHall {
         }
 
         int refresh(History events) {
-            System.arraycopy(isExtension, 0, wasExtension, 0, HANDLES);
             markPoints();
             for (int h = 0; h < HANDLES; h++) {
+                wasExtension[h] = isExtension[h];
                 isExtension[h] = isResolvedOutermost(h, EXT) && fitsItsPoint(h);
             }
             return tell(events);
@@ -975,12 +972,12 @@ public final class PluginHall {
 
         /** By HANDLES, each looking at those marked so far: the least one of a WORD stays the only one. */
         private void markPoints() {
-            Arrays.fill(isPoint, false);
             for (int h = 0; h < HANDLES; h++) {
-                if (isResolvedOutermost(h, POINT)) {
-                    long id = house.at(h).valueOf(ID);
-                    isPoint[h] = id > 0 && pointOf(id) == NONE;
-                }
+                isPoint[h] = false;
+            }
+            for (int h = 0; h < HANDLES; h++) {
+                long id = house.at(h).valueOf(ID);
+                isPoint[h] = id > 0 && isResolvedOutermost(h, POINT) && pointOf(id) == NONE;
             }
         }
 

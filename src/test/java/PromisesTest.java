@@ -15,6 +15,7 @@ public final class PromisesTest {
         add();
         faults();
         faultsAtLimits();
+        nothingStale();
         remove();
         plugin();
         resolved();
@@ -521,6 +522,35 @@ public final class PromisesTest {
         due("11: none", hall.extension(word("e"), 0), REFUSED);
         due("11: no WORD", hall.extension(0, 0), REFUSED);
         due("11: no WORD", hall.extension(-1, 0), REFUSED);
+    }
+
+    /** What an earlier DRAFT or PLUGIN had must not shine through where a later one has less. */
+    private static void nothingStale() {
+        PluginHall hall = new PluginHall();
+        hall.need(6, 0, 0);
+        hall.need(7, 0, 0);
+        hall.provide(word("x"), 0);
+        hall.provide(word("k"), 0);
+        install(hall, 0, 1, "<point id=\"p\"><item name=\"a\"/></point><ext point=\"p\"><b/></ext><c><d/></c>");
+        due("7: not RESOLVED", hall.plugin(0, 0), 1);
+        hall.remove(0);
+        hall.provide(word("x"), 0);
+        install(hall, 0, 1, "<point id=\"p\"/><ext point=\"p\" c=\"k\"/>");
+        due("7: no NEED is left", hall.plugin(0, 7), 0);
+        due("7: no CLASS is left", hall.create(1, word("c")), PluginHall.NO_CLASS);
+        due("7: no ELEMENT is left", hall.plugin(0, 6), 2);
+        due("7: nothing in it", hall.element(0, 0), 0);
+        due("7: nothing in it", hall.child(0, 0), REFUSED);
+        due("7: POINTS", hall.count(4), 1);
+        hall.remove(0);
+        hall.need(0, 0, 1);
+        install(hall, 1, 1, "<a><b/></a>");
+        hall.need(0, 0, 1);
+        hall.provide(word("x"), 0);
+        hall.provide(word("k"), 0);
+        install(hall, 0, 1, "<point id=\"p\"/><ext point=\"p\" c=\"k\"/>");
+        due("7: all RESOLVED", hall.count(1), 2);
+        due("7: the second CLASS", hall.create(1, word("c")), 0);
     }
 
     private static void element() {
