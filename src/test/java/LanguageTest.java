@@ -19,8 +19,8 @@ public final class LanguageTest {
         + "int extensions(long) int need(int,int,int) int object(int,int) int plugin(int,int) int provide(long,int) "
         + "int remove(int) int shutdown() int stopped(int) int text(long) long attribute(int,long) long name(int)";
     private static final String CONSTANTS = "BROKEN EXISTS FULL NOT_AWAKE NO_CLASS NO_NAME OTHER_TYPE REFUSED";
-    private static final String BANNED = "\\b(throw|throws|try|catch|finally|synchronized|assert|native|volatile|"
-        + "protected|package|Object|Exception|Exact|Thread|hashCode|toString|super)\\b|->|::|@|\\?\\s*>";
+    private static final String BANNED = "\\b(throw|throws|try|catch|finally|synchronized|assert|native|volatile|package|"
+        + "Thread|Random|random|\\w+Exact)\\b|->|::|System\\.(?!arraycopy)|java\\.(?!util\\.(ArrayList|List|Arrays|Iterator);)";
     private static final int[] NUMBERS = {Integer.MIN_VALUE, -129, -128, -17, -16, -2, -1, 0, 1, 2, 3, 4, 5, 6, 7, 8, 9,
         10, 15, 16, 17, 23, 24, 31, 32, 33, 112, 127, 128, 129, 255, 256, Integer.MAX_VALUE};
     private static int wrong = 0;
@@ -29,7 +29,7 @@ public final class LanguageTest {
         face();
         classes();
         source(Files.readString(Path.of("src/main/java/PluginHall.java")));
-        for (int seed = 0; seed < 400; seed++) {
+        for (int seed = 0; seed < 2000; seed++) {
             anyCalls(new Random(seed));
         }
         System.out.println(wrong + " rules broken");
@@ -59,6 +59,9 @@ public final class LanguageTest {
         }
         must("1: the methods are " + methods, String.join(" ", methods).equals(FACE));
         for (Method each : hall.getDeclaredMethods()) {
+            if (each.isSynthetic()) {
+                continue;
+            }
             boolean isPrivate = Modifier.isPrivate(each.getModifiers());
             must("1: " + each, Modifier.isPublic(each.getModifiers()) || isPrivate && !publicNames.contains(each.getName()));
         }
@@ -78,7 +81,7 @@ public final class LanguageTest {
 
     private static void classes() {
         Class<?>[] inside = PluginHall.class.getDeclaredClasses();
-        must("11: classes", inside.length < 12);
+        must("11: classes", inside.length <= 12);
         for (Class<?> each : inside) {
             must("1: static " + each, Modifier.isStatic(each.getModifiers()) && !Modifier.isPublic(each.getModifiers()));
             int fields = 0;
@@ -95,11 +98,11 @@ public final class LanguageTest {
 
     private static void source(String text) {
         String code = text.replaceAll("(?s)/\\*.*?\\*/", "").replaceAll("//[^\n]*", "");
+        code = code.replaceAll("(case [^:;{}]*|default *)->", "$1:");
         Matcher banned = Pattern.compile(BANNED).matcher(code);
         while (banned.find()) {
-            must("6: " + banned.group(), false);
+            must("4, 6 or 13: " + banned.group(), false);
         }
-        must("4: an import, where none is needed", !code.contains("import "));
         int length = 0;
         for (String line : code.split("\n")) {
             boolean begins = line.matches(" {4}(?: {4})?[a-zA-Z].*\\) \\{");
@@ -112,7 +115,7 @@ public final class LanguageTest {
         return random.nextInt(3) > 0 ? random.nextInt(9) : NUMBERS[random.nextInt(NUMBERS.length)];
     }
 
-    private static long word(Random random) {
+    private static long someLong(Random random) {
         switch (random.nextInt(4)) {
             case 0: return random.nextLong();
             case 1: return NUMBERS[random.nextInt(NUMBERS.length)];
@@ -127,23 +130,23 @@ public final class LanguageTest {
         return pieces[random.nextInt(pieces.length)];
     }
 
-    private static void write(PluginHall hall, String piece) {
+    /** How many calls that took; whether there was room for the letters is all the same here. */
+    private static int write(PluginHall hall, String piece) {
+        int calls = 0;
         for (int i = 0; i < piece.length(); i += 8) {
-            long w = 0;
-            for (int j = Math.min(i + 8, piece.length()) - 1; j >= i; j--) {
-                w = w << 8 | piece.charAt(j);
-            }
-            hall.text(w);
+            hall.text(Asking.word(piece.substring(i, Math.min(i + 8, piece.length()))));
+            calls++;
         }
+        return calls;
     }
 
     /** An exception ends the test with an exit code other than 0. */
     private static void anyCalls(Random random) {
         PluginHall hall = new PluginHall();
-        for (int i = 0; i < 2000; i++) {
+        for (int calls = 0; calls < 500; calls++) {
             int a = number(random);
             int b = number(random);
-            long w = word(random);
+            long w = someLong(random);
             switch (random.nextInt(24)) {
                 case 0: hall.text(w); break;
                 case 1: hall.need(a, b, number(random)); break;
@@ -166,7 +169,7 @@ public final class LanguageTest {
                 case 18: if (random.nextInt(4) == 0) hall.shutdown(); break;
                 case 19: hall.stopped(a); break;
                 case 20: hall.count(a); break;
-                default: write(hall, piece(random)); break;
+                default: calls += write(hall, piece(random)) - 1; break;
             }
         }
     }

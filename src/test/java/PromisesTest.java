@@ -1,10 +1,5 @@
 /** Each promise by hand: ordinary calls, the edges that the document names, wrong inputs. */
-public final class PromisesTest {
-    private static final int REFUSED = PluginHall.REFUSED, FULL = PluginHall.FULL, EXISTS = PluginHall.EXISTS;
-    private static final String POINT_P = "<point id=\"p\"/>";
-    private static int wrong = 0;
-    private static int asked = 0;
-
+public final class PromisesTest extends Asking {
     public static void main(String[] args) {
         newObject();
         text();
@@ -34,55 +29,7 @@ public final class PromisesTest {
         shutdown();
         stopped();
         count();
-        System.out.println(asked + " answers asked for, " + wrong + " wrong");
-        if (wrong != 0) {
-            System.exit(1);
-        }
-    }
-
-    private static void due(String what, long got, long want) {
-        asked++;
-        if (got != want) {
-            wrong++;
-            System.out.println(what + " answered " + got + ", due is " + want);
-        }
-    }
-
-    private static void due(String what, boolean got, boolean want) {
-        due(what, got ? 1 : 0, want ? 1 : 0);
-    }
-
-    private static long word(String letters) {
-        long w = 0;
-        for (int i = letters.length() - 1; i >= 0; i--) {
-            w = w << 8 | letters.charAt(i);
-        }
-        return w;
-    }
-
-    private static PluginHall write(PluginHall hall, String text) {
-        for (int i = 0; i < text.length(); i += 8) {
-            String part = text.substring(i, Math.min(i + 8, text.length()));
-            long got = hall.text(word(part));
-            if (got < 0) {
-                wrong++;
-                System.out.println("text was not taken: " + text);
-            }
-        }
-        return hall;
-    }
-
-    private static int install(PluginHall hall, int p, int version, String text) {
-        return write(hall, text).add(p, version);
-    }
-
-    /** A hall where PLUGIN 0 has the POINT p and an EXTENSION of it that names word as c; the DRAFT is empty. */
-    private static PluginHall hallNaming(String word, int classKind, int starterKind, String asks) {
-        PluginHall hall = new PluginHall();
-        hall.provide(word(word), classKind);
-        hall.starter(starterKind, word(asks));
-        install(hall, 0, 1, POINT_P + "<ext point=\"p\" c=\"" + word + "\"/>");
-        return hall;
+        end();
     }
 
     private static void newObject() {
@@ -192,7 +139,7 @@ public final class PromisesTest {
         hall.starter(2, 0);
         due("5: refused", hall.starter(5, 0), false);
         install(hall, 0, 1, POINT_P + "<ext point=\"p\" c=\"k\"/>");
-        due("5: a refused one changes nothing", hall.create(1, word("c")), PluginHall.NOT_AWAKE);
+        due("5: a refused one changes nothing", hall.create(1, word("c")), NOT_AWAKE);
         hall = new PluginHall();
         hall.provide(word("k"), 0);
         hall.starter(2, 0);
@@ -537,7 +484,7 @@ public final class PromisesTest {
         hall.provide(word("x"), 0);
         install(hall, 0, 1, "<point id=\"p\"/><ext point=\"p\" c=\"k\"/>");
         due("7: no NEED is left", hall.plugin(0, 7), 0);
-        due("7: no CLASS is left", hall.create(1, word("c")), PluginHall.NO_CLASS);
+        due("7: no CLASS is left", hall.create(1, word("c")), NO_CLASS);
         due("7: no ELEMENT is left", hall.plugin(0, 6), 2);
         due("7: nothing in it", hall.element(0, 0), 0);
         due("7: nothing in it", hall.child(0, 0), REFUSED);
@@ -645,10 +592,10 @@ public final class PromisesTest {
         for (int bad : new int[] {-1, 0, 2, 15, 16, 128, 129, Integer.MAX_VALUE, Integer.MIN_VALUE}) {
             due("16: no EXTENSION " + bad, hall.create(bad, word("c")), REFUSED);
         }
-        due("16: no such ATTRIBUTE", hall.create(1, word("d")), PluginHall.NO_NAME);
-        due("16: no NAME", hall.create(1, 0), PluginHall.NO_NAME);
-        due("16: no NAME", hall.create(1, -1), PluginHall.NO_NAME);
-        due("16: no CLASS", hall.create(1, word("point")), PluginHall.NO_CLASS);
+        due("16: no such ATTRIBUTE", hall.create(1, word("d")), NO_NAME);
+        due("16: no NAME", hall.create(1, 0), NO_NAME);
+        due("16: no NAME", hall.create(1, -1), NO_NAME);
+        due("16: no CLASS", hall.create(1, word("point")), NO_CLASS);
         due("16: it sleeps still", hall.plugin(0, 0), 2);
         due("16: made", hall.create(1, word("c")), 0);
         due("16: awake", hall.plugin(0, 0), 3);
@@ -657,7 +604,7 @@ public final class PromisesTest {
         hall = new PluginHall();
         hall.provide(word("k"), 0);
         install(hall, 2, 1, POINT_P + "<ext point=\"p\"><a c=\"\"><b c=\"k\"/></a></ext><x c=\"k\"/>");
-        due("16: nothing is no WORD", hall.create(34, word("c")), PluginHall.NO_NAME);
+        due("16: nothing is no WORD", hall.create(34, word("c")), NO_NAME);
         due("16: deep in it", hall.create(35, word("c")), 0);
         due("16: of DEPTH 1, but none", hall.create(36, word("c")), REFUSED);
         due("16: its HANDLE", hall.object(0, 0), 35);
@@ -666,7 +613,7 @@ public final class PromisesTest {
     }
 
     private static void kindsOfClasses() {
-        int[] answers = {0, PluginHall.BROKEN, PluginHall.OTHER_TYPE};
+        int[] answers = {0, BROKEN, OTHER_TYPE};
         for (int kind = 0; kind < 3; kind++) {
             PluginHall hall = hallNaming("k", kind, 1, "");
             due("16: kind " + kind, hall.create(1, word("c")), answers[kind]);
@@ -676,7 +623,7 @@ public final class PromisesTest {
             due("16: not woken for kind " + kind + " APART", hall.plugin(0, 0), 2);
             due("16: not STARTING for kind " + kind + " APART", hall.plugin(0, 5), 0);
             hall = hallNaming("k", kind, 2, "");
-            due("16: NOT_AWAKE before kind " + kind, hall.create(1, word("c")), PluginHall.NOT_AWAKE);
+            due("16: NOT_AWAKE before kind " + kind, hall.create(1, word("c")), NOT_AWAKE);
             hall = hallNaming("k", kind + 4, 2, "");
             due("16: APART, a failing STARTER is nothing to kind " + kind, hall.create(1, word("c")), answers[kind]);
         }
@@ -691,8 +638,8 @@ public final class PromisesTest {
             due("16: object " + n, hall.create(1, word("c")), n);
         }
         due("16: FULL", hall.create(1, word("c")), FULL);
-        due("16: NO_CLASS before FULL", hall.create(16, word("e")), PluginHall.NO_CLASS);
-        due("16: BROKEN before FULL", hall.create(16, word("d")), PluginHall.BROKEN);
+        due("16: NO_CLASS before FULL", hall.create(16, word("e")), NO_CLASS);
+        due("16: BROKEN before FULL", hall.create(16, word("d")), BROKEN);
         hall.shutdown();
         due("16: FULL again", hall.create(16, word("c")), FULL);
         due("16: but awake", hall.plugin(1, 0), 3);
@@ -733,8 +680,8 @@ public final class PromisesTest {
         due("16: its PLUGIN", hall.object(1, 1), 2);
         due("16: the first CLASS, and NEEDS before its own", hall.create(49, word("c")), 2);
         due("16: its PLUGIN", hall.object(2, 1), 2);
-        due("16: its own, the first one", hall.create(50, word("d")), PluginHall.OTHER_TYPE);
-        due("16: not what a NEED needs", hall.create(50, word("e")), PluginHall.NO_CLASS);
+        due("16: its own, the first one", hall.create(50, word("d")), OTHER_TYPE);
+        due("16: not what a NEED needs", hall.create(50, word("e")), NO_CLASS);
         due("16: all APART", hall.count(2), 0);
     }
 
@@ -747,7 +694,7 @@ public final class PromisesTest {
         hall.provide(word("k"), 0);
         hall.starter(1, word("m"));
         install(hall, 0, 1, POINT_P + "<ext point=\"p\" c=\"k\"/>");
-        due("16: what it asks for did not wake", hall.create(1, word("c")), PluginHall.NOT_AWAKE);
+        due("16: what it asks for did not wake", hall.create(1, word("c")), NOT_AWAKE);
         due("16: both were STARTING", hall.plugin(0, 5) * 10 + hall.plugin(1, 5), 11);
         due("16: RESOLVED again", hall.plugin(0, 0) * 10 + hall.plugin(1, 0), 22);
         due("16: nothing was stopped", hall.count(8), 0);
@@ -758,12 +705,12 @@ public final class PromisesTest {
         due("16: both are ACTIVE", hall.plugin(0, 0) * 10 + hall.plugin(1, 0), 33);
 
         hall = hallNaming("k", 0, 1, "missing");
-        due("16: it asks for no CLASS", hall.create(1, word("c")), PluginHall.NOT_AWAKE);
+        due("16: it asks for no CLASS", hall.create(1, word("c")), NOT_AWAKE);
         due("16: STARTING all the same", hall.plugin(0, 5), 1);
         hall = hallNaming("k", 0, 1, "k");
         due("16: it asks for its own", hall.create(1, word("c")), 0);
         hall = hallNaming("k", 0, 2, "k");
-        due("16: its own, but it fails", hall.create(1, word("c")), PluginHall.NOT_AWAKE);
+        due("16: its own, but it fails", hall.create(1, word("c")), NOT_AWAKE);
 
         failingRing();
         apartForStarter();
@@ -780,12 +727,12 @@ public final class PromisesTest {
         hall.provide(word("k"), 0);
         hall.starter(2, word("m"));
         install(hall, 0, 1, POINT_P + "<ext point=\"p\" c=\"k\" d=\"m\"/>");
-        due("16: the one that fails", hall.create(1, word("c")), PluginHall.NOT_AWAKE);
+        due("16: the one that fails", hall.create(1, word("c")), NOT_AWAKE);
         due("16: it asked before it failed", hall.plugin(1, 0), 3);
         due("16: RESOLVED again", hall.plugin(0, 0), 2);
         due("16: the other one is awake", hall.create(1, word("d")), 0);
         due("16: once", hall.plugin(1, 5), 1);
-        due("16: it starts again each time", hall.create(1, word("c")), PluginHall.NOT_AWAKE);
+        due("16: it starts again each time", hall.create(1, word("c")), NOT_AWAKE);
         due("16: twice", hall.plugin(0, 5), 2);
         due("16: the other one once", hall.plugin(1, 5), 1);
     }

@@ -12,8 +12,8 @@ import java.util.regex.Pattern;
  * Random runs, with fixed seeds, against a second hall that is written from the document's words in another way:
  * it works out all from the definitions at each call, and finds a FAULT by trying how a TEXT could go on.
  */
-public final class ReferenceTest {
-    private static final int RUNS = 600;
+public final class ReferenceTest extends Asking {
+    private static final int RUNS = 2500;
     private static final int TEXTS = 2000;
     private static int wrong = 0;
 
@@ -40,20 +40,6 @@ public final class ReferenceTest {
             wrong++;
             System.out.println("FAULT of " + text + " at " + hall.plugin(0, 3) + ", due is " + place);
         }
-    }
-
-    private static void write(PluginHall hall, String text) {
-        for (int i = 0; i < text.length(); i += 8) {
-            hall.text(word(text.substring(i, Math.min(i + 8, text.length()))));
-        }
-    }
-
-    private static long word(String letters) {
-        long w = 0;
-        for (int i = letters.length() - 1; i >= 0; i--) {
-            w = w << 8 | letters.charAt(i);
-        }
-        return w;
     }
 
     private record Node(String name, int parent, int depth, Map<String, String> attributes) {
@@ -677,13 +663,18 @@ public final class ReferenceTest {
         }
     }
 
-    /** One run of calls on both halls. */
+    /** One run of calls on both halls, not more than one object is used for. */
     private static final class Run {
+        private static final int MOST_CALLS = 512;
+        private static final int DEAREST_ACTION = 40;
+        private static final String[] ATTRIBUTES = {"", "id", "point", "name", "must", "c", "d", "a", "abcdefgh"};
+
         private final int seed;
         private final Random random;
         private final PluginHall hall = new PluginHall();
         private final Model model = new Model();
-        private final StringBuilder calls = new StringBuilder();
+        private final StringBuilder told = new StringBuilder();
+        private int calls = 0;
         private boolean failed = false;
 
         Run(int seed) {
@@ -692,28 +683,39 @@ public final class ReferenceTest {
         }
 
         void play() {
-            for (int i = 0; i < 60 && !failed; i++) {
-                int what = random.nextInt(12);
-                if (what < 5) {
-                    install();
-                } else if (what < 7) {
-                    remove();
-                } else if (what < 11) {
-                    create();
-                } else {
-                    due("shutdown", hall.shutdown(), model.shutdown());
+            int atEnd = random.nextInt(200);
+            while (calls + atEnd + DEAREST_ACTION <= MOST_CALLS && !failed) {
+                act();
+                int questions = random.nextInt(12);
+                for (int i = 0; i < questions && calls < MOST_CALLS; i++) {
+                    ask(random.nextInt(16));
                 }
-                lookAround();
             }
-            lookEverywhere();
+            while (calls < MOST_CALLS && !failed) {
+                ask(random.nextInt(16));
+            }
+        }
+
+        private void act() {
+            int what = random.nextInt(12);
+            if (what < 5) {
+                install();
+            } else if (what < 7) {
+                remove();
+            } else if (what < 11) {
+                create();
+            } else {
+                due("shutdown", hall.shutdown(), model.shutdown());
+            }
         }
 
         private void due(String call, long got, long want) {
-            calls.append(call).append(" -> ").append(want).append('\n');
+            calls++;
+            told.append(call).append(" -> ").append(want).append('\n');
             if (got != want && !failed) {
                 failed = true;
                 wrong++;
-                System.out.println("seed " + seed + ": " + call + " answered " + got + ", due is " + want + ", behind\n" + calls);
+                System.out.println("seed " + seed + ": " + call + " answered " + got + ", due is " + want + ", behind\n" + told);
             }
         }
 
@@ -723,8 +725,23 @@ public final class ReferenceTest {
                 text = Writer.spoilt(random, text);
             }
             write(hall, text);
+            calls += (text.length() + 7) / 8;
             model.text = text;
-            calls.append(text).append('\n');
+            told.append(text).append('\n');
+            installWiring();
+            if (random.nextInt(20) == 0) {
+                due("clear", hall.clear(), model.clear());
+            }
+            int p = random.nextInt(8);
+            if (model.plugins[p] != null && random.nextBoolean()) {
+                due("remove " + p, hall.remove(p), model.remove(p));
+            }
+            int version = random.nextInt(4);
+            due("add " + p + ", " + version, hall.add(p, version), model.add(p, version));
+            due("clear", hall.clear(), model.clear());
+        }
+
+        private void installWiring() {
             int needs = Math.max(0, random.nextInt(5) - 1);
             for (int i = 0; i < needs; i++) {
                 Need need = new Need(random.nextInt(8), random.nextInt(5) == 0 ? 2 : 0, random.nextInt(5) == 0 ? 2 : 3);
@@ -743,16 +760,6 @@ public final class ReferenceTest {
                 model.asks = random.nextInt(3) == 0 ? "" : Writer.pick(random, Writer.CLASSES);
                 due("starter " + model.starterKind + model.asks, hall.starter(model.starterKind, word(model.asks)) ? 1 : 0, 1);
             }
-            if (random.nextInt(20) == 0) {
-                due("clear", hall.clear(), model.clear());
-            }
-            int p = random.nextInt(8);
-            if (model.plugins[p] != null && random.nextBoolean()) {
-                due("remove " + p, hall.remove(p), model.remove(p));
-            }
-            int version = random.nextInt(4);
-            due("add " + p + ", " + version, hall.add(p, version), model.add(p, version));
-            due("clear", hall.clear(), model.clear());
         }
 
         private void remove() {
@@ -775,49 +782,67 @@ public final class ReferenceTest {
             }
         }
 
-        private void lookAround() {
-            for (int what = 0; what <= 9; what++) {
-                due("count " + what, hall.count(what), model.count(what));
-            }
-            for (int p = 0; p < 8; p++) {
-                int what = random.nextInt(8);
-                due("plugin " + p + ", 0", hall.plugin(p, 0), model.plugin(p, 0));
-                due("plugin " + p + ", " + what, hall.plugin(p, what), model.plugin(p, what));
-            }
+        private void ask(int which) {
             int k = random.nextInt(36) - 1;
-            due("event " + k, hall.event(k), Model.before(model.events, k, 32));
-            due("stopped " + k, hall.stopped(k), Model.before(model.stops, k, 16));
-            for (String word : Writer.WORDS) {
-                List<Integer> found = model.extensionsOf(word);
-                due("extensions " + word, hall.extensions(word(word)), found == null ? PluginHall.REFUSED : found.size());
-                int which = random.nextInt(4) - 1;
-                due("extension " + word + which, hall.extension(word(word), which),
-                    found == null || which < 0 || which >= found.size() ? PluginHall.REFUSED : found.get(which));
-            }
-            for (int n = 0; n < model.things.size(); n++) {
-                Thing thing = model.things.get(n);
-                int what = random.nextInt(3);
-                due("object " + n + ", " + what, hall.object(n, what),
-                    new int[] {thing.handle, thing.owner, thing.dropped ? 0 : 1}[what]);
+            int what = random.nextInt(10);
+            switch (which) {
+                case 0, 1, 2 -> due("count " + what, hall.count(what), model.count(what));
+                case 3, 4, 5 -> askPlugin(random.nextInt(8), what % 8);
+                case 6, 7 -> due("event " + k, hall.event(k), Model.before(model.events, k, 32));
+                case 8 -> due("stopped " + k, hall.stopped(k), Model.before(model.stops, k, 16));
+                case 9, 10 -> askExtensions(Writer.pick(random, Writer.WORDS), random.nextInt(5) - 1);
+                case 11 -> askObject(random.nextInt(model.things.size() + 2) - 1, random.nextInt(5) - 1);
+                default -> askElement(someHandle());
             }
         }
 
-        private void lookEverywhere() {
-            for (int h = -2; h < 130 && !failed; h++) {
-                Node node = model.node(h);
-                for (int what = -1; what <= 5; what++) {
-                    due("element " + h + ", " + what, hall.element(h, what), model.element(h, what));
-                }
-                due("name " + h, hall.name(h), node == null ? 0 : word(node.name));
-                for (int k = -1; k < 4; k++) {
+        private void askPlugin(int p, int what) {
+            due("plugin " + p + ", " + what, hall.plugin(p, what), model.plugin(p, what));
+        }
+
+        private void askExtensions(String word, int k) {
+            List<Integer> found = model.extensionsOf(word);
+            if (random.nextBoolean()) {
+                due("extensions " + word, hall.extensions(word(word)), found == null ? PluginHall.REFUSED : found.size());
+            } else {
+                due("extension " + word + k, hall.extension(word(word), k),
+                    found == null || k < 0 || k >= found.size() ? PluginHall.REFUSED : found.get(k));
+            }
+        }
+
+        private void askObject(int n, int what) {
+            int want = PluginHall.REFUSED;
+            if (n >= 0 && n < model.things.size() && what >= 0 && what < 3) {
+                Thing thing = model.things.get(n);
+                want = new int[] {thing.handle, thing.owner, thing.dropped ? 0 : 1}[what];
+            }
+            due("object " + n + ", " + what, hall.object(n, what), want);
+        }
+
+        /** Mostly one of an ELEMENT, or close behind the last one of a PLUGIN. */
+        private int someHandle() {
+            if (random.nextInt(8) == 0) {
+                return random.nextInt(140) - 6;
+            }
+            int p = random.nextInt(8);
+            return 16 * p + random.nextInt(model.plugin(p, 6) + 1);
+        }
+
+        private void askElement(int h) {
+            Node node = model.node(h);
+            int k = random.nextInt(7) - 1;
+            switch (random.nextInt(4)) {
+                case 0 -> due("name " + h, hall.name(h), node == null ? 0 : word(node.name));
+                case 1 -> {
                     List<Integer> inner = node == null ? List.of() : model.in(h);
-                    due("child " + h + ", " + k, hall.child(h, k),
-                        k < 0 || k >= inner.size() ? PluginHall.REFUSED : inner.get(k));
+                    due("child " + h + ", " + k, hall.child(h, k), k < 0 || k >= inner.size() ? PluginHall.REFUSED : inner.get(k));
                 }
-                for (String name : new String[] {"", "id", "point", "name", "must", "c", "d", "a", "abcdefgh"}) {
+                case 2 -> {
+                    String name = Writer.pick(random, ATTRIBUTES);
                     String value = node == null ? null : node.attributes.get(name);
                     due("attribute " + h + name, hall.attribute(h, word(name)), value == null ? -1 : word(value));
                 }
+                default -> due("element " + h + ", " + k, hall.element(h, k), model.element(h, k));
             }
         }
     }
