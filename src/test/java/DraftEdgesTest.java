@@ -150,6 +150,7 @@ public final class DraftEdgesTest extends Asking {
         due("the least", new PluginHall().text(Long.MIN_VALUE), REFUSED);
         due("the greatest", new PluginHall().text(Long.MAX_VALUE), REFUSED);
         due("a zero before letters", new PluginHall().text(word("aaaaaaa") << 8), REFUSED);
+        sentence("LETTERS are codes 1..127");
         for (int code = 1; code < 256; code++) {
             for (int place = 0; place < 8; place++) {
                 PluginHall hall = new PluginHall();
@@ -215,7 +216,7 @@ public final class DraftEdgesTest extends Asking {
         sentence("FULL if there are 3");
         PluginHall hall = new PluginHall();
         for (int n = 1; n <= 3; n++) {
-            due("NEED " + n, hall.need(n, 1, 1), n);
+            due("NEED " + n + " of how many", hall.need(n, 1, 1), n);
         }
         due("one too many", hall.need(7, 1, 1), FULL);
         due("one too many again", hall.need(1, 1, 1), FULL);

@@ -37,6 +37,7 @@ public final class TextEdgesTest extends Asking {
         attributeValues();
         noAttribute();
         writtenAnew();
+        writtenAnewBehindAFault();
         end();
     }
 
@@ -136,6 +137,8 @@ public final class TextEdgesTest extends Asking {
         next("<a x=\"\" y=\"\" x", NAMES, "");
         next("<a x=\"\" y=\"\" y", NAMES, "");
         next("<a x=\"\" y=\"\" z=\"\" x", NAMES, "");
+        next("<a x=\"\" y=\"\" z=\"\" y", NAMES, "");
+        next("<a x=\"\" y=\"\" z=\"\" z", NAMES, "");
         next("<a xx=\"\" x", NAMES + "=", "");
         next("<a abcdefg=\"\" abcdefg", NAMES, "");
         next("<a abcdefgh=\"\" abcdefg", NAMES.replace("h", "") + "=", "");
@@ -522,13 +525,27 @@ public final class TextEdgesTest extends Asking {
         due("DEPTH", hall.element(1, 3), 1);
         due("one ATTRIBUTE", hall.element(1, 1), 1);
         due("no third", hall.name(2), 0);
-        hall.remove(0);
-        install(hall, 0, 0, "<");
-        due("a FAULT now", hall.plugin(0, 3), 1);
-        hall.remove(0);
-        hall.add(0, 0);
-        due("none any more", hall.plugin(0, 2), 0);
-        due("none any more", hall.plugin(0, 3), -1);
-        due("none any more", hall.plugin(0, 4), -1);
+    }
+
+    private static void writtenAnewBehindAFault() {
+        sentence("and what the DRAFT has, which is empty then: 0, or 1 if its TEXT has a FAULT");
+        String all = "<a b=\"1\"><c d=\"\"/><e><f></f ></e></a>";
+        for (int n = 1; n < all.length(); n++) {
+            PluginHall hall = new PluginHall();
+            due("a FAULT", install(hall, 0, 0, all.substring(0, n)), 1);
+            due("its place", hall.plugin(0, 3), n);
+            hall.remove(0);
+            due("the empty TEXT", hall.add(0, 0), 0);
+            for (int what = 2; what <= 6; what++) {
+                due("none any more, " + what, hall.plugin(0, what), new int[] {0, -1, -1, 0, 0}[what - 2]);
+            }
+            hall.remove(0);
+            install(hall, 0, 0, all.substring(0, n));
+            hall.remove(0);
+            due("a WHOLE TEXT", install(hall, 0, 0, "<g><h/></g>"), 0);
+            due("its ELEMENTS", hall.plugin(0, 6), 2);
+            due("in none", hall.element(0, 2), -1);
+            due("DEPTH", hall.element(0, 3), 1);
+        }
     }
 }

@@ -18,6 +18,8 @@ public final class WiringEdgesTest extends Asking {
         firstNeedNotMet();
         versionsOfNeeds();
         chainsOfNeeds();
+        chainsOfEight();
+        ringsOfAnotherVersion();
         rings();
         needsOfItself();
         classesInOrder();
@@ -26,6 +28,7 @@ public final class WiringEdgesTest extends Asking {
         wakesOnce();
         wakesNotApart();
         startersAsk();
+        startersAskInOrder();
         startersAskForNoClass();
         startersThatFail();
         startersInARing();
@@ -346,6 +349,43 @@ public final class WiringEdgesTest extends Asking {
         }
     }
 
+    /** The last of eight lacks something of its own, so that one after the other falls. */
+    private static void chainsOfEight() {
+        sentence("as long as one has a NEED whose PLUGIN is not RESOLVED");
+        for (int down = 0; down <= 1; down++) {
+            PluginHall hall = new PluginHall();
+            for (int i = 0; i < 8; i++) {
+                int p = down == 1 ? 7 - i : i;
+                hall.need(i == 7 ? p : down == 1 ? p - 1 : p + 1, i == 7 ? 1 : 0, i == 7 ? 1 : 0);
+                hall.add(p, 0);
+            }
+            due("installed", hall.count(0), 8);
+            due("RESOLVED", hall.count(1), 0);
+            for (int p = 0; p < 8; p++) {
+                due("installed alone, " + p, hall.plugin(p, 0), 1);
+                due("its first NEED, " + p, hall.plugin(p, 7), 1);
+            }
+        }
+    }
+
+    private static void ringsOfAnotherVersion() {
+        sentence("or not of a version within it, it is not");
+        for (int other = 0; other < 8; other++) {
+            for (int step : new int[] {1, 3, 5, 7}) {
+                PluginHall hall = new PluginHall();
+                for (int p = 0; p < 8; p++) {
+                    hall.need((p + step) % 8, 1, 1);
+                    hall.add(p, p == other ? 2 : 1);
+                }
+                due("none, as " + other + " has another version", hall.count(1), 0);
+                hall.remove(other);
+                hall.need((other + step) % 8, 1, 1);
+                hall.add(other, 1);
+                due("all, as " + other + " has not", hall.count(1), 8);
+            }
+        }
+    }
+
     private static void rings() {
         sentence("(Rings may be RESOLVED.)");
         PluginHall hall = new PluginHall();
@@ -519,6 +559,33 @@ public final class WiringEdgesTest extends Asking {
         due("none asks for nothing", hall.count(2), 1);
     }
 
+    private static void startersAskInOrder() {
+        sentence("it LOOKS FOR the WORD that it asks for");
+        for (int failing = 0; failing <= 1; failing++) {
+            PluginHall hall = new PluginHall();
+            hall.provide(word("m"), 4 * (1 - failing));
+            hall.starter(2, 0);
+            hall.add(1, 0);
+            hall.need(1, 0, 0);
+            hall.provide(word("k"), 0);
+            hall.provide(word("m"), 4 * failing);
+            hall.starter(1, word("m"));
+            install(hall, 0, 0, POINT_P + "<ext point=\"p\" c=\"k\"/>");
+            due("first among what it NEEDS", hall.create(1, word("c")), failing == 1 ? NOT_AWAKE : 0);
+            due("that was STARTING or not", hall.plugin(1, 5), failing);
+        }
+        PluginHall hall = new PluginHall();
+        hall.provide(word("far"), 4);
+        hall.add(1, 0);
+        hall.need(1, 0, 0);
+        hall.add(2, 0);
+        hall.need(2, 0, 0);
+        hall.provide(word("k"), 0);
+        hall.starter(1, word("far"));
+        install(hall, 0, 0, POINT_P + "<ext point=\"p\" c=\"k\"/>");
+        due("not among what a NEED needs", hall.create(1, word("c")), NOT_AWAKE);
+    }
+
     private static void startersAskForNoClass() {
         sentence("If there was no such CLASS");
         PluginHall hall = hallNaming("k", 0, 1, "missing");
@@ -642,12 +709,13 @@ public final class WiringEdgesTest extends Asking {
     }
 
     private static void createByKind() {
-        sentence("by its kind BROKEN or OTHER_TYPE");
         int[] answers = {0, BROKEN, OTHER_TYPE, 0, 0, BROKEN, OTHER_TYPE};
         for (int kind : new int[] {0, 1, 2, 4, 5, 6}) {
+            sentence("by its kind BROKEN or OTHER_TYPE");
             PluginHall hall = hallNaming("k", kind, 1, "");
             due("kind " + kind, hall.create(1, word("c")), answers[kind]);
             due("made or not", hall.count(5), answers[kind] == 0 ? 1 : 0);
+            sentence("0 good, 1 it fails when it is made, 2 it is of another type; 4 more if it is APART");
             due("awake all the same, unless APART", hall.plugin(0, 0), kind < 4 ? 3 : 2);
         }
     }
