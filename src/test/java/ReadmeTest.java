@@ -1,17 +1,13 @@
-import java.io.ByteArrayOutputStream;
+import java.io.File;
 import java.io.IOException;
-import java.io.PrintStream;
 import java.lang.reflect.Method;
 import java.lang.reflect.Modifier;
-import java.net.URL;
-import java.net.URLClassLoader;
 import java.nio.file.Files;
 import java.nio.file.Path;
 import java.util.ArrayList;
 import java.util.List;
 import java.util.regex.Matcher;
 import java.util.regex.Pattern;
-import java.util.spi.ToolProvider;
 
 /** README.md: its example is compiled and run, and answers what stands behind each call; every call is named. */
 public final class ReadmeTest extends Asking {
@@ -19,7 +15,7 @@ public final class ReadmeTest extends Asking {
     private static final Pattern BLOCK = Pattern.compile("```java\n(.*?)```", Pattern.DOTALL);
     private static final Pattern PRINTED = Pattern.compile("println\\((.*)\\); *// (\\S+)");
 
-    public static void main(String[] args) throws IOException, ReflectiveOperationException {
+    public static void main(String[] args) throws IOException, InterruptedException {
         String readme = Files.readString(Path.of("README.md"));
         namesEveryCall(readme);
         namesEveryTest(readme);
@@ -49,7 +45,7 @@ public final class ReadmeTest extends Asking {
         }
     }
 
-    private static void answersAsTold(String example) throws IOException, ReflectiveOperationException {
+    private static void answersAsTold(String example) throws IOException, InterruptedException {
         List<String> calls = new ArrayList<>();
         List<String> told = new ArrayList<>();
         for (Matcher line = PRINTED.matcher(example); line.find();) {
@@ -63,32 +59,25 @@ public final class ReadmeTest extends Asking {
         }
     }
 
-    private static String printedBy(String example) throws IOException, ReflectiveOperationException {
+    private static String printedBy(String example) throws IOException, InterruptedException {
         Path dir = Files.createTempDirectory("readme");
         Path source = dir.resolve(EXAMPLE + ".java");
-        Path compiled = dir.resolve(EXAMPLE + ".class");
+        String classes = System.getProperty("java.class.path");
         try {
             Files.writeString(source, example);
-            int faults = ToolProvider.findFirst("javac").orElseThrow().run(System.out, System.err, "--release", "17",
-                "-cp", System.getProperty("java.class.path"), "-d", dir.toString(), source.toString());
-            due("the example compiles", faults, 0);
-            return faults == 0 ? run(dir) : "";
+            outputOf("javac", "--release", "17", "-cp", classes, "-d", dir.toString(), source.toString());
+            return outputOf("java", "-cp", dir + File.pathSeparator + classes, EXAMPLE);
         } finally {
             Files.deleteIfExists(source);
-            Files.deleteIfExists(compiled);
+            Files.deleteIfExists(dir.resolve(EXAMPLE + ".class"));
             Files.deleteIfExists(dir);
         }
     }
 
-    private static String run(Path dir) throws IOException, ReflectiveOperationException {
-        PrintStream before = System.out;
-        ByteArrayOutputStream printed = new ByteArrayOutputStream();
-        try (URLClassLoader loader = new URLClassLoader(new URL[] {dir.toUri().toURL()})) {
-            System.setOut(new PrintStream(printed, true));
-            loader.loadClass(EXAMPLE).getMethod("main", String[].class).invoke(null, (Object) new String[0]);
-        } finally {
-            System.setOut(before);
-        }
-        return printed.toString();
+    private static String outputOf(String... command) throws IOException, InterruptedException {
+        Process process = new ProcessBuilder(command).redirectError(ProcessBuilder.Redirect.INHERIT).start();
+        String output = new String(process.getInputStream().readAllBytes());
+        due(command[0] + " of the example ends with", process.waitFor(), 0);
+        return output;
     }
 }
